@@ -1704,45 +1704,33 @@ public final class MovedSpan {
             return shift;
         }
 
-        /** Weeks without a move are tried first: often one of them can't be bettered. */
+        /** Weeks without a move are tried first: often none can be better than one of these. */
         void findBest() {
             if (bestKnown) {
                 return;
             }
             sortPeople();
             bestCount = NONE;
-            for (int c = 0; c <= river.gaps; c++) {
-                Arrays.fill(trial, choice(c));
+            for (int gap = 0; gap < river.gaps; gap++) {
+                Arrays.fill(trial, gap);
                 weigh(0);
             }
             if (bestCount < sure + opens) {
-                tryAll();
+                tryBest(0);
             }
             bestKnown = true;
         }
 
         int countGood() {
-            if (goodKnown) {
-                return good;
-            }
-            sortPeople();
-            if (hopeless > 0) {
+            if (!goodKnown) {
+                sortPeople();
                 good = 0;
-            } else if (opens == 0) {
-                good = allWeeks();
-            } else {
-                tryAll();
+                if (hopeless == 0) {
+                    tryGood(0);
+                }
+                goodKnown = true;
             }
-            goodKnown = true;
             return good;
-        }
-
-        private int allWeeks() {
-            int all = 1;
-            for (int h = 0; h < river.hours; h++) {
-                all *= river.gaps + 1;
-            }
-            return all;
         }
 
         /** A span never keeps anybody from walking, so only errands between these bounds hang on it. */
@@ -1781,26 +1769,84 @@ public final class MovedSpan {
             return left >= 0 && hasBit(at, river.goal[p]);
         }
 
-        private void tryAll() {
-            bestCount = NONE;
-            good = 0;
-            tryHours(0);
-            bestKnown = true;
-            goodKnown = true;
-        }
-
-        /** Tries all choices for the week's hours, the one that comes first from now on first. */
-        private void tryHours(int depth) {
+        /**
+         * Tries all gaps for the week's hours, the one that comes first from now on first. The best
+         * week never rests: to lie on where it lay saves moves, and hinders nobody.
+         */
+        private void tryBest(int depth) {
+            if (sure + opens - lost(depth) < bestCount) {
+                return;
+            }
             if (depth >= river.hours) {
                 weigh(depth);
+                return;
+            }
+            int h = river.hourOfWeek(state.hour + depth);
+            for (int gap = 0; gap < river.gaps; gap++) {
+                trial[h] = gap;
+                stepOpen(depth, h);
+                tryBest(depth + 1);
+            }
+        }
+
+        /**
+         * Counts the weeks by which all open ones come, their first hours being those on trial. What
+         * does for them while the others rest does whatever these others are.
+         */
+        private void tryGood(int depth) {
+            if (lost(depth) > 0) {
+                return;
+            }
+            if (allCome(depth)) {
+                good += weeksOf(river.hours - depth);
+                return;
+            }
+            if (depth >= river.hours) {
                 return;
             }
             int h = river.hourOfWeek(state.hour + depth);
             for (int c = 0; c <= river.gaps; c++) {
                 trial[h] = choice(c);
                 stepOpen(depth, h);
-                tryHours(depth + 1);
+                tryGood(depth + 1);
             }
+        }
+
+        private int weeksOf(int hours) {
+            int all = 1;
+            for (int h = 0; h < hours; h++) {
+                all *= river.gaps + 1;
+            }
+            return all;
+        }
+
+        /** How many open ones can't come in time any more, so many hours having been gone through. */
+        private int lost(int gone) {
+            int lost = 0;
+            for (int i = 0; i < opens; i++) {
+                int p = open[i];
+                if (gone >= hoursLeft(p) && !hasBit(spots[gone * MOST_PEOPLE + i], river.goal[p])) {
+                    lost++;
+                }
+            }
+            return lost;
+        }
+
+        private boolean allCome(int gone) {
+            for (int i = 0; i < opens; i++) {
+                if (!openComes(i, gone)) {
+                    return false;
+                }
+            }
+            return true;
+        }
+
+        /** Whether an open one comes by the week on trial, so many hours having been gone through. */
+        private boolean openComes(int i, int gone) {
+            int p = open[i];
+            int at = spots[gone * MOST_PEOPLE + i];
+            return hasBit(at, river.goal[p])
+                || ahead.hoursFrom(p, at, river.goal[p], trial, gone, hoursLeft(p) - gone) != NONE;
         }
 
         private void stepOpen(int depth, int h) {
@@ -1819,15 +1865,9 @@ public final class MovedSpan {
         private void weigh(int gone) {
             int count = sure;
             for (int i = 0; i < opens; i++) {
-                int p = open[i];
-                int at = spots[gone * MOST_PEOPLE + i];
-                if (hasBit(at, river.goal[p])
-                        || ahead.hoursFrom(p, at, river.goal[p], trial, gone, hoursLeft(p) - gone) != NONE) {
+                if (openComes(i, gone)) {
                     count++;
                 }
-            }
-            if (hopeless == 0 && count == sure + opens) {
-                good++;
             }
             if (count >= bestCount) {
                 keepBetter(count, movesOf(trial));
@@ -1845,7 +1885,7 @@ public final class MovedSpan {
         private boolean trialIsFirst() {
             for (int h = 0; h < river.hours; h++) {
                 if (trial[h] != best[h]) {
-                    return best[h] == NONE || trial[h] != NONE && trial[h] < best[h];
+                    return trial[h] < best[h];
                 }
             }
             return false;

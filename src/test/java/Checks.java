@@ -1,0 +1,61 @@
+import java.nio.ByteBuffer;
+import java.nio.charset.StandardCharsets;
+import java.util.Arrays;
+
+/** What the tests share: answers held against what is due, texts fed. */
+final class Checks {
+    private int wrong = 0;
+    private String topic = "";
+
+    void topic(String name) {
+        topic = name;
+    }
+
+    void due(String call, long got, long want) {
+        if (got != want) {
+            wrong++;
+            System.out.println(topic + ": " + call + " answered " + got + ", due is " + want);
+        }
+    }
+
+    void holds(String what, boolean so) {
+        due(what, so ? 1 : 0, 1);
+    }
+
+    void end(String name) {
+        System.out.println(wrong == 0 ? name + ": all as due" : name + ": " + wrong + " not as due");
+        System.exit(wrong == 0 ? 0 : 1);
+    }
+
+    /** Feeds a text, filled up with blanks, and answers what river() does of it. */
+    static int tell(MovedSpan span, String text) {
+        feed(span, text);
+        return span.river(text.length());
+    }
+
+    static void feed(MovedSpan span, String text) {
+        byte[] bytes = text.getBytes(StandardCharsets.ISO_8859_1);
+        byte[] filled = Arrays.copyOf(bytes, (bytes.length + 19) / 20 * 20);
+        Arrays.fill(filled, bytes.length, filled.length, (byte) 32);
+        ByteBuffer ints = ByteBuffer.wrap(filled);
+        for (int i = 0; i < filled.length; i += 20) {
+            span.feed(ints.getInt(), ints.getInt(), ints.getInt(), ints.getInt(), ints.getInt());
+        }
+    }
+
+    static MovedSpan river(String text) {
+        MovedSpan span = new MovedSpan();
+        int lines = tell(span, text);
+        if (lines < 1) {
+            throw new IllegalStateException(text + " answered " + lines);
+        }
+        return span;
+    }
+
+    static void fill(MovedSpan span, int tray, int... numbers) {
+        span.numbers(tray, 2, numbers.length);
+        for (int i = 0; i < numbers.length; i++) {
+            span.write(tray, i, numbers[i]);
+        }
+    }
+}
