@@ -118,6 +118,12 @@ public final class PromisesTest {
         C.due("walks", x.why(0, 1), 3);
         x.hours(1);
         C.due("serves", x.why(0, 3), 0);
+        Checks.feed(x, "river 2 week 2222;hours");
+        C.due("digits that the text hasn't", x.river(14), -32);
+        C.due("the end", x.fault(1), 14);
+        Checks.feed(x, "river 2 week 1;hourly");
+        C.due("letters that the text hasn't", x.river(19), -32);
+        C.due("the end", x.fault(1), 19);
         C.due("blanks and none", Checks.tell(x, "\n river\n2week 1 ;  hour\n7;person at 1west to 0east by 7load 3 ; "), 3);
         C.due("an errand done at the first hour", Checks.tell(x, "river 2 week 1;person at 1 west to 1 west by 7;hour 7;"), 3);
         C.due("it is done", x.count(4), 1);
@@ -199,6 +205,8 @@ public final class PromisesTest {
         faultIs(walks + "((((((1))))))=not", 2, 35);
         faultIs(walks + "[[[[[[1=not", 2, 29);
         C.due("six within one another", Checks.tell(new MovedSpan(), walks + "not[not[((1)) = 1]];"), 2);
+        C.due("six in serves", Checks.tell(new MovedSpan(), "river 2 week 1;serves:[[[[[[1=1]]]]]];"), 2);
+        faultIs("river 2 week 1;serves:[[[[[[[1=1", 4, 28);
         C.due("six, then six", Checks.tell(new MovedSpan(), walks + "((((((1))))))=((((((1)))))) or [[[[[not 1=1]]]]];"), 2);
         lawIs("2+3*4=14", true);
         lawIs("10-3-2=5", true);
@@ -453,6 +461,13 @@ public final class PromisesTest {
             judged(x, 1, 1, 0, 11);
         }
         C.due("nothing changed", x.count(6) * 10 + x.count(9), 100);
+        MovedSpan six = Checks.river("river 4 week 6;person at 0 west;person at 0 west;person at 0 west;person at 0 west;person at 3 west;");
+        Checks.fill(six, 0, 0, 46, 159, 150);
+        judged(six, 1, 2, 0, 0);
+        Checks.fill(six, 0, 40, 42, 44, 159, 153, 100, 209, -1);
+        judged(six, 2, 2, 0, 0);
+        Checks.fill(six, 0, 40, 42, 159, 153, 103, 200, 209, -1);
+        judged(six, NONE, 0, 0, 1);
         x.numbers(1, 3, 1);
         x.write(1, 0, (1L << 32) - 1);
         C.due("a number of 64 bits", x.judge(1, 1), 1);
@@ -628,6 +643,11 @@ public final class PromisesTest {
         x.fog(99);
         C.due("not by then", x.meet(0, 1), NONE);
         C.due("not by then", x.meetAt(0, 1), NONE);
+        MovedSpan late = Checks.river("river 2 week 1;person at 0 west;person at 0 east;");
+        late.fog(59);
+        C.due("in 60 hours", late.meet(0, 1) * 10 + late.meetAt(0, 1), 600);
+        late.fog(60);
+        C.due("not in 60 hours", late.meet(0, 1) * 10 + late.meetAt(0, 1), -11);
         MovedSpan same = Checks.river("river 2 week 1;person at 1 east;person at 1 east;person at 0 east;person at 0 west;walks:1=2;");
         C.due("at one spot", same.meet(0, 1), 0);
         C.due("at one spot", same.meetAt(0, 1), 3);
@@ -743,6 +763,10 @@ public final class PromisesTest {
         MovedSpan two = Checks.river("river 2 week 2;person at 0 west to 0 east by 2;person at 1 west to 1 east by 2;walks:1=2;");
         C.due("two moves for two errands", two.best(0) * 10 + two.best(1), 22);
         C.due("the first by hours", two.best(10) * 10 + two.best(11), 1);
+        MovedSpan soon = Checks.river("river 2 week 3;person at 0 west to 0 east by 1;person at 1 west to 1 east by 1;walks:1=2;");
+        C.due("one of two", soon.best(0) * 10 + soon.best(1), 10);
+        C.due("all at gap 0", soon.best(10) + soon.best(11) + soon.best(12), 0);
+        C.due("by no week both", soon.weeks(), 0);
     }
 
     private static void change() {
@@ -804,6 +828,11 @@ public final class PromisesTest {
         C.due("no spot", x.fits(0, 0, 0), -3);
         Checks.fill(x, 0, 0, -2);
         C.due("no spot", x.fits(0, 0, 0), -3);
+        x.numbers(0, 3, 1);
+        x.write(0, 0, 1L << 32);
+        C.due("no spot", x.fits(0, 0, 0), -3);
+        x.write(0, 0, -1L << 32);
+        C.due("no spot", x.odd(0, 0), -3);
         Checks.fill(x, 0, 4, 5);
         C.due("crossed at gap 2 in hour 0", x.fits(0, 0, 0), 4);
         C.due("not by hour 1", x.fits(0, 0, 1), 0);
@@ -1041,5 +1070,8 @@ public final class PromisesTest {
         C.due("others", x.count(12) + x.count(-1), -2);
         MovedSpan done = Checks.river("river 2 week 1;person at 0 west;person at 0 west to 1 west by 3;person at 1 west to 1 west by 0;");
         C.due("errands, done", done.count(3) * 10 + done.count(4), 64);
+        done.act(0, 4);
+        done.hours(1);
+        C.due("on the span", done.count(5), 1);
     }
 }
