@@ -1057,11 +1057,11 @@ public final class MovedSpan {
                 if (sign == 10 || sign == 32) {
                     at++;
                 } else if (isLetter(sign)) {
-                    int end = endOfWord(text, at, length);
+                    int end = endOf(text, at, length, false);
                     add(wordKind(text, at, end), at, 0);
                     at = end;
                 } else if (isDigit(sign)) {
-                    int end = endOfNumber(text, at, length);
+                    int end = endOf(text, at, length, true);
                     add(end - at > 3 ? BAD : NUMBER, at, valueOf(text, at, end));
                     at = end - at > 3 ? length : end;
                 } else {
@@ -1090,17 +1090,9 @@ public final class MovedSpan {
             return sign >= '0' && sign <= '9';
         }
 
-        private static int endOfWord(byte[] text, int from, int length) {
+        private static int endOf(byte[] text, int from, int length, boolean digits) {
             int end = from;
-            while (end < length && end < text.length && isLetter(text[end])) {
-                end++;
-            }
-            return end;
-        }
-
-        private static int endOfNumber(byte[] text, int from, int length) {
-            int end = from;
-            while (end < length && end < text.length && isDigit(text[end])) {
+            while (end < length && end < text.length && (digits ? isDigit(text[end]) : isLetter(text[end]))) {
                 end++;
             }
             return end;
