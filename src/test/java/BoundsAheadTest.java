@@ -12,6 +12,7 @@ public final class BoundsAheadTest {
         sixtyHours();
         way();
         firstByActs();
+        lawsToCome();
         ways();
         reach();
         meet();
@@ -22,6 +23,8 @@ public final class BoundsAheadTest {
         moves();
         best();
         bestOfSix();
+        bestOfLikeOnes();
+        bestAnew();
         change();
         weeks();
         shift();
@@ -143,6 +146,31 @@ public final class BoundsAheadTest {
         wayIs("down", Checks.river("river 4 week 1;person at 3 east;"), 1, 2, 2, 2);
         wayIs("cross, then down", Checks.river("river 4 week 1;span 0 at 3;person at 3 east;"), 4, 3, 2);
         wayIs("down, then cross", Checks.river("river 4 week 1;span 0 at 2;person at 3 east;"), 4, 2, 3);
+    }
+
+    private static void lawsToCome() {
+        C.sentence(16, "hour: HOUR modulo the WEEK, in the hours to come");
+        String text = "river 2 week 6;hour 4;person at 0 west to 1 west by 7;person at 1 west;walks:hour=0 and who=0;serves:hour=2;";
+        MovedSpan x = Checks.river(text);
+        C.due("walks in hour 6", x.soonest(0, 2), 3);
+        wayIs("walks in hour 6", x, 2, 0, 0, 1);
+        C.due("not ahead of it", x.reach(0, 2), 1);
+        C.due("behind it", x.reach(0, 3), 5);
+        C.due("one way", x.ways(0, 2, 3) * 10 + x.ways(0, 2, 2), 10);
+        C.due("crosses in hour 8", x.soonest(0, 1), 5);
+        C.due("both meet", x.meet(0, 1) * 10 + x.meetAt(0, 1), 32);
+        C.due("in time", x.inTime(), 1);
+        C.due("not an hour to spare", x.spare(0), 2);
+        x.tell(2, 1);
+        C.due("who 1 crosses in hour 8", x.soonest(1, 3), 5);
+        x.fog(4);
+        C.due("a law that minds no fog", x.soonest(1, 3), 5);
+        MovedSpan fog = Checks.river("river 2 week 2;person at 0 west;walks:fog=1 and hour=1;");
+        fog.fog(1);
+        C.due("the fog is over in hour 1", fog.soonest(0, 2), NONE);
+        fog.fog(2);
+        C.due("it lasts till then", fog.soonest(0, 2) * 100 + fog.reach(0, 2) * 10 + fog.ways(0, 2, 2), 251);
+        wayIs("in fog", fog, 2, 0, 1);
     }
 
     private static void ways() {
@@ -332,6 +360,10 @@ public final class BoundsAheadTest {
         C.due("on in hour 0, off in hour 5", ride.needs(0), 33);
         MovedSpan done = Checks.river("river 2 week 6;person at 0 west to 0 west by 0;");
         C.due("done", done.needs(0), 0);
+        done.act(0, 3);
+        done.hours(1);
+        C.due("done, and gone", done.needs(0) + done.person(0, 0), 1);
+        C.due("done, and gone: still in time", done.inTime() * 100 + done.spare(0), 160);
     }
 
     private static void moves() {
@@ -420,6 +452,64 @@ public final class BoundsAheadTest {
         weekIs("59 hours, to either", far, 0);
     }
 
+    private static void bestOfLikeOnes() {
+        C.sentence(26, "of like ones with the fewest MOVES, the first by HOURS: not the first that is found");
+        // Who 1 and who 2 cross at gap 1 in hours 1 and 3 alone, who 0 at gap 0 in any.
+        String people = "person at 0 west to 0 east by 99;person at 1 west to 1 east by 99;person at 1 west to 1 east by 99;"
+            + "walks:1=2;serves:who=0 or hour=2*who-1;";
+        for (int hour = 0; hour < 8; hour++) {
+            MovedSpan x = Checks.river("river 2 week 4;hour " + hour + ";" + people);
+            C.due("three, from hour " + hour, x.best(0), 3);
+            C.due("two moves, not four", x.best(1), 2);
+            weekIs("0 1 1 1 ahead of 1 1 0 1, from hour " + hour, x, 0, 1, 1, 1);
+            C.due("0 1 any 1, any 1 0 1", x.weeks(), 5);
+        }
+        C.sentence(26, "GAPS ahead of RESTING, where no WEEK is any good");
+        MovedSpan stuck = Checks.river("river 2 week 1;span 0 rest;person at 0 west to 1 east by 9;walks:1=2;");
+        C.due("none by any", stuck.best(0) * 10 + stuck.best(1), 0);
+        weekIs("none by any", stuck, 0);
+        C.due("by no week", stuck.weeks(), 0);
+        C.sentence(26, "ERRANDS that were DONE, ERRANDS too late");
+        MovedSpan gone = Checks.river("river 2 week 2;person at 0 west to 0 west by 0;person at 1 west to 1 east by 2;walks:1=2;");
+        gone.act(0, 3);
+        gone.hours(1);
+        C.due("done, and gone", gone.best(0) * 10 + gone.best(1), 20);
+        weekIs("for the other one", gone, 1, 1);
+        C.due("hour 1 at gap 1", gone.weeks(), 3);
+        gone.hours(1);
+        C.due("the other one too late", gone.best(0) * 10 + gone.weeks(), 10);
+        MovedSpan late = Checks.river("river 2 week 2;hour 7;person at 0 west to 0 west by 6;");
+        C.due("there, but too late", late.best(0) * 100 + late.weeks() * 10 + late.inTime(), 0);
+        C.due("no change, no shift", late.change() * 10 + late.shift(), -10);
+    }
+
+    private static void bestAnew() {
+        C.sentence(26, "BEST and WEEKS as it is now, whatever was asked ahead");
+        String near = "river 2 week 1;person at 1 west to 1 east by 1;walks:1=2;";
+        MovedSpan x = Checks.river(near);
+        x.image(0);
+        C.due("gap 1", x.best(10) * 10 + x.weeks(), 11);
+        Checks.tell(x, "river 2 week 1;person at 0 west to 0 east by 1;person at 0 west;walks:1=2;");
+        C.due("another text: gap 0", x.best(10) * 10 + x.weeks(), 1);
+        x.restore(0);
+        C.due("an image: gap 1", x.best(10) * 10 + x.weeks(), 11);
+        x.hours(1);
+        C.due("an hour later: too late", x.best(10) * 100 + x.best(0) * 10 + x.weeks(), 0);
+        x.undo(1);
+        C.due("undone: gap 1", x.best(10) * 10 + x.weeks(), 11);
+        x.fog(1);
+        C.due("fog: too late", x.best(10) * 100 + x.best(0) * 10 + x.weeks(), 0);
+        x.fog(0);
+        C.due("no fog: gap 1", x.best(10) * 10 + x.weeks(), 11);
+        x.tell(0, NONE);
+        C.due("the week as told aside", x.best(10) * 10 + x.weeks(), 11);
+        Checks.fill(x, 0, 201);
+        x.perform(0);
+        C.due("fog by a tray", x.best(0) * 10 + x.weeks(), 0);
+        x.restore(0);
+        C.due("an image again", x.best(0) * 10 + x.weeks(), 11);
+    }
+
     private static void change() {
         C.sentence(27, "10 times the HOUR and the GAP (9: it RESTS), the first by HOURS (GAPS ahead of RESTING). NONE: none.");
         for (int h = 0; h < 6; h++) {
@@ -462,6 +552,9 @@ public final class BoundsAheadTest {
         C.due("by 7: hour 0 again", Checks.river(head + "7;").weeks(), 15625 - 4096);
         C.due("by 999", Checks.river(head + "999;").weeks(), 15625 - 4096);
         C.due("hour 5, by 6", Checks.river(head + "6;hour 5;").weeks(), 3125);
+        C.due("hours 5 and 6", Checks.river(head + "7;hour 5;").weeks(), 15625 - 16 * 625);
+        C.due("hour 6 alone, by the law", Checks.river(head + "7;hour 5;serves:hour=0;").weeks(), 3125);
+        C.due("a ride in hours 5 and 6", Checks.river("river 4 week 6;walks:1=2;person at 0 west to 3 east by 7;hour 5;").weeks(), 625);
         C.due("one of two never", Checks.river(head + "6;person at 0 west to 1 west by 0;").weeks(), 0);
         C.due("one done", Checks.river(head + "1;person at 3 east to 3 east by 0;").weeks(), 3125);
         C.due("both in one hour", Checks.river(head + "1;person at 1 west to 1 east by 1;").weeks(), 0);

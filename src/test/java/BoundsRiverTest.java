@@ -336,10 +336,17 @@ public final class BoundsRiverTest {
         C.lines(HEAD + "walks:1=2;serves:1=1;walks:1=2;", 4);
         MovedSpan y = C.lines(HEAD + "walks:who=0;person at 0 west;serves:load=3;person at 0 west load 3;", 5);
         C.due("laws hold for people told behind them", y.why(0, 1) * 1000 + y.why(1, 1) * 100 + y.why(0, 3) * 10 + y.why(1, 3), 330);
-        MovedSpan z = C.lines(HEAD + "person at 0 west;serves:1=1;", 3);
-        Checks.tell(z, HEAD + "person at 0 west;");
+        MovedSpan shorter = C.lines(HEAD + "person at 0 west;walks:not 1=1;walks:1=1;serves:not 1=2;serves:1=2;", 6);
+        C.due("a shorter law strikes the whole of a longer one", shorter.why(0, 1) * 10 + shorter.why(0, 3), 3);
+        C.sentence(3, "a text strikes all of the one ahead");
+        MovedSpan z = C.lines("river 4 week 6;span 0 at 3;span 5 rest;person at 0 west load 9 to 3 east by 7;walks:1=2;serves:1=1;foggy 8;hour 77;", 8);
+        C.due("lines", Checks.tell(z, HEAD + "person at 0 west;"), 2);
         z.fog(1);
-        C.due("a law of the text ahead is gone", z.why(0, 3), 3);
+        C.due("no law walks", z.why(0, 1), 0);
+        C.due("no law serves", z.why(0, 3), 3);
+        C.due("no load, no errand", z.person(0, 1) * 100 + z.person(0, 2) * 10 + z.person(0, 3), -11);
+        C.due("not foggy, hour 0, the span at gap 0", z.count(8) + z.count(6) + z.span(0), 0);
+        C.due("lines of this text", z.count(11), 2);
     }
 
     private static void bytes() {
@@ -570,6 +577,14 @@ public final class BoundsRiverTest {
         C.due("others", y.why(0, 2) * 100 + y.why(2, 1) * 10 + y.why(3, 1), 333);
         y.hours(1);
         C.due("hour 6 is 0", y.why(4, 2), 3);
+        C.sentence(7, "side: 0 west, 1 east, at each gap");
+        for (int gap = 0; gap < 4; gap++) {
+            int act = gap == 3 ? 2 : 1;
+            MovedSpan sides = Checks.river("river 4 week 1;person at " + gap + " west;person at " + gap + " east;walks:side=who and gap=" + gap + ";");
+            C.due("each on its side of gap " + gap, sides.why(0, act) + sides.why(1, act), 0);
+            sides = Checks.river("river 4 week 1;person at " + gap + " east;person at " + gap + " west;walks:side=who;");
+            C.due("each on the other side of gap " + gap, sides.why(0, act) * 10 + sides.why(1, act), 33);
+        }
         C.sentence(7, "gap: of THE SPAN, for who is on it");
         MovedSpan z = Checks.river("river 4 week 2;span 0 at 0;span 1 at 3;person at 0 west;serves:gap=0 or gap=3 and fog=1;");
         z.act(0, 4);
@@ -686,6 +701,9 @@ public final class BoundsRiverTest {
         C.due("up at the first gap", x.why(0, 1), 3);
         C.due("down at the last gap", x.why(1, 2), 3);
         C.due("both at the one between", x.why(2, 1) * 10 + x.why(2, 2), 33);
+        MovedSpan ends = Checks.river("river 3 week 1;person at 0 west;person at 0 east;person at 2 west;person at 2 east;walks:1=2;");
+        C.due("down at the first gap, on both sides", ends.why(0, 2) * 10 + ends.why(1, 2), 22);
+        C.due("up at the last gap, on both sides", ends.why(2, 1) * 10 + ends.why(3, 1), 22);
         for (int gaps = 2; gaps <= 4; gaps++) {
             MovedSpan y = Checks.river("river " + gaps + " week 1;person at " + (gaps - 1) + " west;person at " + (gaps - 2) + " east;");
             C.due("no next of " + gaps, y.why(0, 1), 2);

@@ -319,6 +319,11 @@ public final class BoundsSeenTest {
         round.hours(3);
         C.due("in 6, behind hour 3", round.likely(0, 1, 50), 6);
         C.due("75 would be in 12", round.likely(0, 1, 75), NONE);
+        round.hours(2);
+        C.due("in 4, behind hour 5", round.likely(0, 1, 50), 4);
+        C.due("75 would be in 10", round.likely(0, 1, 75), NONE);
+        round.hours(1);
+        C.due("75 is in 9, behind hour 6", round.likely(0, 1, 75), 9);
         MovedSpan sure = Checks.river("river 2 week 6;" + RESTS + "span 2 at 0;person at 0 west;walks:1=2;hour 0;");
         C.due("sure in 3", sure.likely(0, 1, 100), 3);
         sure.hours(3);
