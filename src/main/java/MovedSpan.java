@@ -960,12 +960,17 @@ public final class MovedSpan {
         static final int NOT = 2008;
         private static final int BOUND = 1000000;
 
+        final boolean knowsSide;
         boolean told = false;
         private int size = 0;
         private final int[] code = new int[MOST_BYTES];
         private final int[] asked = new int[6];
         // A level of nesting leaves at most five operands waiting, and there are seven levels.
         private final int[] stack = new int[64];
+
+        Law(boolean knowsSide) {
+            this.knowsSide = knowsSide;
+        }
 
         void clear() {
             told = false;
@@ -1165,8 +1170,8 @@ public final class MovedSpan {
         int place = NONE;
         private int next = 0;
         private final Tokens tokens = new Tokens();
-        private final Law walks = new Law();
-        private final Law serves = new Law();
+        private final Law walks = new Law(true);
+        private final Law serves = new Law(false);
         private Law law = walks;
 
         /** The kind of the text's first fault, or 0: then the draft is the river. */
@@ -1377,7 +1382,7 @@ public final class MovedSpan {
                 case FOG:
                     return 4;
                 case SIDE:
-                    return law == walks ? 5 : NONE;
+                    return law.knowsSide ? 5 : NONE;
                 default:
                     return NONE;
             }
