@@ -11,7 +11,6 @@ public final class PromisesTest {
         + "person at 0 west load 7 to 1 east by 14;person at 2 east;foggy 3;hour 10;";
 
     public static void main(String[] args) {
-        readme();
         newObject();
         feed();
         river();
@@ -53,19 +52,6 @@ public final class PromisesTest {
         images();
         count();
         C.end("PromisesTest");
-    }
-
-    private static void readme() {
-        C.topic("README");
-        MovedSpan span = new MovedSpan();
-        span.feed(0x72697665, 0x72203220, 0x7765656b, 0x20313b70, 0x6572736f);
-        span.feed(0x6e206174, 0x20302077, 0x65737420, 0x746f2031, 0x20656173);
-        span.feed(0x74206279, 0x20333b20, 0x20202020, 0x20202020, 0x20202020);
-        C.due("river", span.river(span.count(10)), 2);
-        C.due("soonest", span.soonest(0, 3), 2);
-        C.due("act", span.act(0, 3), 1);
-        C.due("hours", span.hours(1), 0);
-        C.due("undo", span.undo(2), 0);
     }
 
     private static void newObject() {
